@@ -44,6 +44,7 @@ public final class PromisesTest {
         coordinateRefused();
         coordinatedBusesWait();
         busesApartDoNotWait();
+        preparedOnesDoNotHold();
         passiveNodes();
         passiveAloneDoesNotWake();
         neverSleeping();
@@ -675,6 +676,24 @@ public final class PromisesTest {
         due("apart: PREPARED", stateAt(x, 1, 29), PREPARED);
         due("apart: rows do not wake", stateAt(x, 1, 34), SLEEP);
         due("apart: the other is NORMAL", x.state(9), NORMAL);
+
+        BusSleep y = new BusSleep(16);
+        y.wake(1, 0);
+        y.wake(9, 5);
+        due("apart: READY and heard of late on the other bus", stateAt(y, 9, 28), READY);
+        due("apart: does not hold this one", stateAt(y, 1, 29), PREPARED);
+    }
+
+    /** Node 9 is heard at 31, but it is PREPARED: only READY nodes keep their buses from being STILL. */
+    private static void preparedOnesDoNotHold() {
+        BusSleep x = new BusSleep(16);
+        x.wake(9, 0);
+        x.wake(1, 3);
+        due("PREPARED holds nobody: node 9", stateAt(x, 9, 29), PREPARED);
+        x.coordinate(1, 2);
+        due("PREPARED holds nobody: alive", x.alive(9, 31), 0);
+        due("PREPARED holds nobody: node 1 at 31", x.state(1), READY);
+        due("PREPARED holds nobody: node 1 at 32", stateAt(x, 1, 32), PREPARED);
     }
 
     // Promise 10
